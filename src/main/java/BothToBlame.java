@@ -6,7 +6,8 @@ public final class BothToBlame {
     public static final int NONE = -1;
     public static final long NOTHING = -1000000000000L;
 
-    private static final int NEITHER = -2;
+    // What is answered where there is none, though nothing is refused.
+    private static final int ABSENT = -2;
 
     private static final int TAPE_BYTES = 600;
     private static final int FED_BYTES = 20;
@@ -352,7 +353,7 @@ public final class BothToBlame {
         for (int i = 0; i < now.ships; i++) {
             rate = Math.max(rate, reckoning.rateNeeded(i));
         }
-        return rate > MOST_RATE ? NEITHER : (int) rate;
+        return rate > MOST_RATE ? ABSENT : (int) rate;
     }
 
     public long would(int i, int j, int f) {
@@ -386,7 +387,7 @@ public final class BothToBlame {
                 return f;
             }
         }
-        return NEITHER;
+        return ABSENT;
     }
 
     public long judged(int i, int seed, int n, int what) {
@@ -400,15 +401,15 @@ public final class BothToBlame {
         reckoning.take(now);
         long x = seed;
         long together = 0;
-        long least = Long.MAX_VALUE;
-        long most = Long.MIN_VALUE;
+        long least = 0;
+        long most = 0;
         for (int judge = 0; judge < n; judge++) {
             x = reckoning.told.drawFaults(x);
             reckoning.settle();
             long left = reckoning.netOf(i);
             together += left;
-            least = Math.min(least, left);
-            most = Math.max(most, left);
+            least = judge == 0 ? left : Math.min(least, left);
+            most = judge == 0 ? left : Math.max(most, left);
         }
         if (what == 0) {
             return together;
@@ -706,16 +707,17 @@ public final class BothToBlame {
         private void addClaim(int kind, int home, int amount, int day) {
             int row = claims * CLAIM_COLUMNS;
             claimRows[row + KIND] = kind;
-            claimRows[row + HOME] = kind == GOODS ? home : NEITHER;
+            claimRows[row + HOME] = kind == GOODS ? home : ABSENT;
             claimRows[row + AMOUNT] = amount;
             claimRows[row + DAY] = day;
             claims++;
         }
 
         private void dropClaim(int k) {
-            int behind = (k + 1) * CLAIM_COLUMNS;
-            System.arraycopy(claimRows, behind, claimRows, k * CLAIM_COLUMNS, claims * CLAIM_COLUMNS - behind);
             claims--;
+            for (int at = k * CLAIM_COLUMNS; at < claims * CLAIM_COLUMNS; at++) {
+                claimRows[at] = claimRows[at + CLAIM_COLUMNS];
+            }
         }
 
         private int faultsTogether() {
@@ -734,7 +736,7 @@ public final class BothToBlame {
         private int roundOf(int k) {
             int day = ofClaim(k, DAY);
             if (day > laws[LAST]) {
-                return NEITHER;
+                return ABSENT;
             }
             return day > laws[DUE] ? 1 : 0;
         }
@@ -817,7 +819,7 @@ public final class BothToBlame {
         }
 
         private long debt(int i, int k) {
-            if (told.roundOf(k) == NEITHER) {
+            if (told.roundOf(k) == ABSENT) {
                 return 0;
             }
             long amount = told.ofClaim(k, AMOUNT);
@@ -836,7 +838,7 @@ public final class BothToBlame {
 
         /** What the ship on which goods were owes ship j back for them. */
         private long backFor(int k, int j) {
-            boolean owesBack = told.holds(WHOLE) && told.isGoods(k) && told.roundOf(k) != NEITHER;
+            boolean owesBack = told.holds(WHOLE) && told.isGoods(k) && told.roundOf(k) != ABSENT;
             if (!owesBack || told.ofClaim(k, HOME) == j) {
                 return 0;
             }
@@ -1087,16 +1089,16 @@ public final class BothToBlame {
         private static final int OPENS_LAW = 3;
 
         private final long letters;
-        private final int place;
+        private final int role;
         private final int column;
 
-        Word(String written, int place, int column) {
+        Word(String written, int role, int column) {
             long packed = 0;
             for (int at = 0; at < written.length(); at++) {
                 packed |= (long) (written.charAt(at) - 'a' + 1) << (LETTER_BITS * at);
             }
             this.letters = packed;
-            this.place = place;
+            this.role = role;
             this.column = column;
         }
     }
@@ -1146,8 +1148,8 @@ public final class BothToBlame {
             return found;
         }
 
-        private boolean fail(int number) {
-            found = number;
+        private boolean fail(int fault) {
+            found = fault;
             return false;
         }
 
@@ -1170,13 +1172,13 @@ public final class BothToBlame {
 
         private boolean readLine() {
             Word word = fixedWord();
-            if (word == null || word.place == Word.INSIDE) {
+            if (word == null || word.role == Word.INSIDE) {
                 return fail(FORM);
             }
-            if (word.place == Word.OPENS_SHIP) {
+            if (word.role == Word.OPENS_SHIP) {
                 return readShip();
             }
-            return word.place == Word.OPENS_CLAIM ? readClaim(word.column) : readLaw(word.column);
+            return word.role == Word.OPENS_CLAIM ? readClaim(word.column) : readLaw(word.column);
         }
 
         private boolean readShip() {
@@ -1223,7 +1225,7 @@ public final class BothToBlame {
                 return fail(TOO_MANY);
             }
             step();
-            int home = NEITHER;
+            int home = ABSENT;
             if (kind == GOODS) {
                 if (!isName()) {
                     return fail(FORM);

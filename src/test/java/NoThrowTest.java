@@ -1,0 +1,107 @@
+import java.lang.reflect.InvocationTargetException;
+import java.lang.reflect.Method;
+import java.lang.reflect.Modifier;
+import java.util.Arrays;
+import java.util.Comparator;
+import java.util.NoSuchElementException;
+import java.util.Random;
+
+/** Odd arguments in many states: no call throws, but letter() its own exception; and the face is the document's. */
+public final class NoThrowTest {
+    private static final int[] ODD = {Integer.MIN_VALUE, Integer.MIN_VALUE + 1, -1000000001, -2, -1, 0, 1, 2, 3, 4, 5, 6,
+        7, 8, 9, 10, 11, 12, 13, 50, 51, 999, 1000, 99999, 100000, 9999999, 10000000, 1000000001,
+        Integer.MAX_VALUE - 1, Integer.MAX_VALUE};
+    private static final String FACE = "about again all back become between bites claim cover enough fault feed file fund gap "
+            + "gets image judged law letter net netBy owes part pays paysTo shift ship size sum text trouble undo wished "
+            + "where withdraw worse would";
+    private static final String TEXT = "ship a tons 5 fault 4 hull 9999999 value 9999999 clause;"
+            + "ship b tons 1 fault 3 hull 9999999 value 0 barred;ship c tons 99999 fault 3 hull 9999999 value 0 clause;"
+            + "goods a 9999999 day 0;goods b 9999999 day 9;persons 9999999 day 400;others 9999999 day 999;whole";
+    private static int wrong = 0;
+
+    private static void say(String what) {
+        wrong++;
+        if (wrong < 10) {
+            System.out.println(what);
+        }
+    }
+
+    private static void call(BothToBlame x, Method m, Object[] args) throws IllegalAccessException {
+        try {
+            m.invoke(x, args);
+        } catch (InvocationTargetException e) {
+            boolean own = m.getName().equals("letter") && e.getCause().getClass() == NoSuchElementException.class;
+            if (!own) {
+                say(m.getName() + Arrays.toString(args) + " threw " + e.getCause());
+            }
+        }
+    }
+
+    private static void tell(BothToBlame x, String text) {
+        for (int from = 0; from < text.length(); from += 20) {
+            int[] five = new int[5];
+            for (int b = 0; b < 20; b++) {
+                five[b / 4] = five[b / 4] << 8 | (from + b < text.length() ? text.charAt(from + b) : ' ');
+            }
+            x.feed(five[0], five[1], five[2], five[3], five[4]);
+        }
+        x.text(text.length());
+    }
+
+    private static Method[] face() {
+        Method[] all = Arrays.stream(BothToBlame.class.getDeclaredMethods())
+                .filter(m -> Modifier.isPublic(m.getModifiers())).toArray(Method[]::new);
+        Arrays.sort(all, Comparator.comparing(Method::getName));
+        return all;
+    }
+
+    private static void checkFace(Method[] face) {
+        String names = String.join(" ", Arrays.stream(face).map(Method::getName).toArray(String[]::new));
+        String[] wanted = FACE.split(" ");
+        Arrays.sort(wanted);
+        if (!names.equals(String.join(" ", wanted))) {
+            say("the face is " + names);
+        }
+        for (Method m : BothToBlame.class.getDeclaredMethods()) {
+            if (!Modifier.isPublic(m.getModifiers()) && !Modifier.isPrivate(m.getModifiers())) {
+                say(m.getName() + " is neither public nor private");
+            }
+            if (Modifier.isPrivate(m.getModifiers()) && (" " + FACE + " ").contains(" " + m.getName() + " ")) {
+                say(m.getName() + " bears the name of a public method");
+            }
+        }
+        for (var f : BothToBlame.class.getDeclaredFields()) {
+            boolean constant = f.getName().equals("NONE") || f.getName().equals("NOTHING");
+            if (constant != Modifier.isPublic(f.getModifiers()) || !constant && !Modifier.isPrivate(f.getModifiers())) {
+                say("field " + f.getName());
+            }
+        }
+    }
+
+    public static void main(String[] args) throws IllegalAccessException {
+        Method[] face = face();
+        checkFace(face);
+        Random random = new Random(1);
+        for (int run = 0; run < 4000; run++) {
+            BothToBlame x = new BothToBlame();
+            if (run % 5 != 0) {
+                tell(x, TEXT.substring(0, run % 50 == 1 ? random.nextInt(TEXT.length()) : TEXT.length()));
+            }
+            for (int c = 0; c < 450; c++) {
+                Method m = face[random.nextInt(face.length)];
+                if (m.getName().equals("text") && random.nextInt(5) != 0) {
+                    continue;
+                }
+                Object[] numbers = new Object[m.getParameterCount()];
+                for (int a = 0; a < numbers.length; a++) {
+                    numbers[a] = random.nextInt(3) == 0 ? ODD[random.nextInt(ODD.length)] : random.nextInt(5);
+                }
+                call(x, m, numbers);
+            }
+        }
+        System.out.println(wrong == 0 ? "nothing was thrown that isn't due" : wrong + " were thrown");
+        if (wrong != 0) {
+            System.exit(1);
+        }
+    }
+}
