@@ -790,7 +790,12 @@ public final class BothToBlame {
             oweBack();
             oweShips();
             for (int i = 0; i < told.ships; i++) {
-                pay(i);
+                if (told.ofShip(i, BARRED) == 1) {
+                    payAll(i);
+                } else {
+                    payOutOf(i, LIVES);
+                    payOutOf(i, RATE);
+                }
             }
         }
 
@@ -887,13 +892,8 @@ public final class BothToBlame {
             return together;
         }
 
-        private void pay(int i) {
-            if (told.ofShip(i, BARRED) == 1) {
-                System.arraycopy(owed, i * PARTIES, paid, i * PARTIES, PARTIES);
-                return;
-            }
-            payOutOf(i, LIVES);
-            payOutOf(i, RATE);
+        private void payAll(int i) {
+            System.arraycopy(owed, i * PARTIES, paid, i * PARTIES, PARTIES);
         }
 
         private void payOutOf(int i, int which) {
@@ -1135,6 +1135,23 @@ public final class BothToBlame {
 
         /** The fault of the first n bytes, 0 if there is none; the fault's place is where the token starts. */
         private int read(int n) {
+            begin(n);
+            for (int lines = 0; lines <= end; lines++) {
+                step();
+                if (!readLine()) {
+                    return found;
+                }
+                if (token == AT_END) {
+                    return fitsTogether() ? 0 : DOES_NOT_FIT;
+                }
+                if (token != IS_SEMICOLON) {
+                    return FORM;
+                }
+            }
+            return FORM;
+        }
+
+        private void begin(int n) {
             end = n;
             next = 0;
             found = 0;
@@ -1142,10 +1159,6 @@ public final class BothToBlame {
             for (int what = 0; what < LAW_COLUMNS; what++) {
                 lawTold[what] = false;
             }
-            if (readLines() && !fitsTogether()) {
-                fail(DOES_NOT_FIT);
-            }
-            return found;
         }
 
         private boolean fail(int fault) {
@@ -1155,19 +1168,6 @@ public final class BothToBlame {
 
         private boolean fitsTogether() {
             return told.ships >= 2 && told.faultsTogether() == TENTHS && told.laws[LAST] >= told.laws[DUE];
-        }
-
-        private boolean readLines() {
-            for (int lines = 0; lines <= end; lines++) {
-                step();
-                if (!readLine()) {
-                    return false;
-                }
-                if (token != IS_SEMICOLON) {
-                    return token == AT_END || fail(FORM);
-                }
-            }
-            return fail(FORM);
         }
 
         private boolean readLine() {
@@ -1205,7 +1205,11 @@ public final class BothToBlame {
 
         private boolean readColumn(Word word) {
             int what = word.column;
-            if (!readWord(word) || !readWhole(SHIP_LOW[what], SHIP_HIGH[what])) {
+            if (fixedWord() != word) {
+                return fail(FORM);
+            }
+            step();
+            if (!isWholeWithin(SHIP_LOW[what], SHIP_HIGH[what])) {
                 return false;
             }
             told.setShip(told.ships - 1, what, number);
@@ -1236,12 +1240,16 @@ public final class BothToBlame {
                 }
                 step();
             }
-            if (!readWhole(1, MOST_MONEY)) {
+            if (!isWholeWithin(1, MOST_MONEY)) {
                 return false;
             }
             int amount = number;
             step();
-            if (!readWord(Word.DAY_WORD) || !readWhole(0, LAST_DAY)) {
+            if (fixedWord() != Word.DAY_WORD) {
+                return fail(FORM);
+            }
+            step();
+            if (!isWholeWithin(0, LAST_DAY)) {
                 return false;
             }
             told.addClaim(kind, home, amount, number);
@@ -1259,7 +1267,7 @@ public final class BothToBlame {
                 told.laws[what] = 1;
                 return true;
             }
-            if (!readWhole(LAW_LOW[what], LAW_HIGH[what])) {
+            if (!isWholeWithin(LAW_LOW[what], LAW_HIGH[what])) {
                 return false;
             }
             told.laws[what] = number;
@@ -1267,16 +1275,7 @@ public final class BothToBlame {
             return true;
         }
 
-        private boolean readWord(Word word) {
-            if (fixedWord() != word) {
-                return fail(FORM);
-            }
-            step();
-            return true;
-        }
-
-        /** Looks at a whole and stays on it: its number is still needed. */
-        private boolean readWhole(int low, int high) {
+        private boolean isWholeWithin(int low, int high) {
             if (token != IS_WHOLE) {
                 return fail(FORM);
             }

@@ -1,100 +1,14 @@
-import java.nio.charset.StandardCharsets;
 import java.util.NoSuchElementException;
 
 /** Each promise of the document by its number, with answers reckoned by hand. */
-public final class PromiseTest {
-    private static final long NOTHING = -1000000000000L;
-    private static final int LEAST_INT = Integer.MIN_VALUE;
-    private static final int MOST_INT = Integer.MAX_VALUE;
-
-    private static final String TWO = "ship al tons 1000 fault 6 hull 1000 value 600;"
-            + "ship bo tons 500 fault 4 hull 500 value 400";
+public final class PromiseTest extends Checks {
     private static final String SHIPS = "ship a tons 1000 fault 5 hull 900 value 1000 clause;"
             + "ship bcdefg tons 500 fault 3 hull 600 value 200;ship cz tons 100 fault 2 hull 300 value 0";
     private static final String THREE = SHIPS + ";goods a 700 day 10;persons 1000 day 365;others 101 day 366;"
             + "goods cz 90 day 731;whole;cross;rate 1;lives 1;least 400";
 
-    private static int wrong = 0;
-    private static int promise = 0;
-
-    private static void due(String what, long got, long want) {
-        if (got != want) {
-            wrong++;
-            System.out.println("promise " + promise + ": " + what + " answered " + got + ", due is " + want);
-        }
-    }
-
-    private static void due(String what, boolean got, boolean want) {
-        due(what, got ? 1 : 0, want ? 1 : 0);
-    }
-
-    /** The call before was refused by this number. */
-    private static void refused(BothToBlame x, String what, long got, long want, int number) {
-        due(what, got, want);
-        due(what + ": trouble()", x.trouble(), number);
-        due(what + ": where()", x.where(), -1);
-    }
-
-    private static void none(BothToBlame x, String what, long got, int number) {
-        refused(x, what, got, -1, number);
-    }
-
-    private static void nothing(BothToBlame x, String what, long got, int number) {
-        refused(x, what, got, NOTHING, number);
-    }
-
-    /** Feeds a text, blanks behind it, and says how many bytes the text itself has. */
-    private static int feed(BothToBlame x, String text) {
-        byte[] bytes = text.getBytes(StandardCharsets.ISO_8859_1);
-        for (int from = 0; from < bytes.length; from += 20) {
-            int[] five = new int[5];
-            for (int b = 0; b < 20; b++) {
-                int v = from + b < bytes.length ? bytes[from + b] & 255 : ' ';
-                five[b / 4] = five[b / 4] << 8 | v;
-            }
-            x.feed(five[0], five[1], five[2], five[3], five[4]);
-        }
-        return bytes.length;
-    }
-
-    private static BothToBlame told(String text) {
-        BothToBlame x = new BothToBlame();
-        int n = feed(x, text);
-        if (x.text(n) < 2) {
-            wrong++;
-            System.out.println("promise " + promise + ": not read, fault " + x.fault() + " at " + x.where() + ": " + text);
-        }
-        return x;
-    }
-
-    private static void faulty(String text, int fault, int place) {
-        BothToBlame x = told(TWO);
-        int n = feed(x, text);
-        due("text of '" + text + "'", x.text(n), -1);
-        due("trouble() of '" + text + "'", x.trouble(), 4);
-        due("fault() of '" + text + "'", x.fault(), fault);
-        due("where() of '" + text + "'", x.where(), place);
-        due("size() of '" + text + "'", x.size(), 0);
-        due("about(0) of '" + text + "'", x.about(0), 2);
-        due("where() later", x.where(), -1);
-        due("fault() later", x.fault(), fault);
-    }
-
-    private static void good(String text, int ships) {
-        BothToBlame x = new BothToBlame();
-        int n = feed(x, text);
-        due("text of '" + text + "'", x.text(n), ships);
-        due("fault() of '" + text + "'", x.fault(), 0);
-        due("trouble() of '" + text + "'", x.trouble(), 0);
-        due("where() of '" + text + "'", x.where(), -1);
-    }
-
-    private static String many(int n, String line) {
-        return (";" + line).repeat(n);
-    }
-
     private static void newObject() {
-        promise = 1;
+        promise(1);
         BothToBlame x = new BothToBlame();
         due("size()", x.size(), 0);
         due("trouble()", x.trouble(), 0);
@@ -136,7 +50,7 @@ public final class PromiseTest {
     }
 
     private static void feeds() {
-        promise = 2;
+        promise(2);
         BothToBlame x = new BothToBlame();
         x.about(0);
         for (int f = 1; f <= 30; f++) {
@@ -155,7 +69,7 @@ public final class PromiseTest {
     }
 
     private static void texts() {
-        promise = 3;
+        promise(3);
         BothToBlame x = new BothToBlame();
         int n = feed(x, TWO + " !");
         none(x, "text(-1)", x.text(-1), 2);
@@ -182,7 +96,7 @@ public final class PromiseTest {
     }
 
     private static void faults() {
-        promise = 4;
+        promise(4);
         faulty("", 1, 0);
         faulty("   ", 1, 3);
         faulty(";" + TWO, 1, 0);
@@ -254,7 +168,7 @@ public final class PromiseTest {
     }
 
     private static void places() {
-        promise = 5;
+        promise(5);
         BothToBlame x = told(TWO);
         due("where()", x.where(), -1);
         feed(x, "equal ! ");
@@ -276,7 +190,7 @@ public final class PromiseTest {
     }
 
     private static void whatIsTold() {
-        promise = 6;
+        promise(6);
         BothToBlame x = told(THREE);
         int[] about = {3, 4, 0, 1, 1, 1, 1, 400, 365, 730, 0};
         for (int what = 0; what < about.length; what++) {
@@ -289,7 +203,7 @@ public final class PromiseTest {
         for (int what = 0; what < other.length; what++) {
             due("about(" + what + ")", x.about(what), other[what]);
         }
-        promise = 7;
+        promise(7);
         x = told(THREE + ";equal");
         int[][] ships = {{1000, 5, 900, 1000, 1, 0, 1}, {500, 3, 600, 200, 0, 0, 1}, {100, 2, 300, 0, 0, 0, 1}};
         for (int i = 0; i < 3; i++) {
@@ -308,7 +222,7 @@ public final class PromiseTest {
         due("BARRED alone", x.ship(1, 5), 1);
         due("WEIGHT 0 by EQUAL", x.ship(1, 6), 0);
         due("WEIGHT 1 by EQUAL", x.ship(0, 6), 1);
-        promise = 8;
+        promise(8);
         x = told(THREE);
         int[][] claims = {{0, 0, 700, 10, 0}, {1, -2, 1000, 365, 0}, {2, -2, 101, 366, 1}, {0, 2, 90, 731, -2}};
         for (int k = 0; k < 4; k++) {
@@ -324,7 +238,7 @@ public final class PromiseTest {
     }
 
     private static void debts() {
-        promise = 9;
+        promise(9);
         BothToBlame x = told(THREE);
         due("part", x.part(0, 9999999), 4999999);
         due("part", x.part(1, 7), 2);
@@ -334,7 +248,7 @@ public final class PromiseTest {
         none(x, "part(0, 10000000)", x.part(0, 10000000), 2);
         x.law(2, 1);
         due("part by EQUAL", x.part(2, 100), 33);
-        promise = 10;
+        promise(10);
         x = told(THREE);
         long[][] owed = {{0, 500, 50, 0}, {420, 300, 30, 0}, {280, 200, 20, 0}};
         for (int i = 0; i < 3; i++) {
@@ -351,7 +265,7 @@ public final class PromiseTest {
         x = told("ship a tons 5 fault 10 hull 7 value 0;ship b tons 6 fault 0 hull 9 value 0;goods a 5 day 5;whole");
         due("all weights but that of the ship are 0", x.owes(1, 0), 0);
         due("no back then", x.back(0), 0);
-        promise = 11;
+        promise(11);
         x = told(THREE);
         long[][] pairs = {{0, 1, 300, 210, 510, 510, 240}, {1, 0, 270, 0, 270, 270, 0}, {0, 2, 150, 140, 290, 290, 110},
             {2, 0, 180, 0, 180, 180, 0}, {1, 2, 90, 0, 90, 90, 0}, {2, 1, 120, 0, 120, 120, 30}};
@@ -371,7 +285,7 @@ public final class PromiseTest {
             due("single " + p[0] + " " + p[1], x.between((int) p[0], (int) p[1], 3), p[6]);
             due("together " + p[0] + " " + p[1], x.between((int) p[0], (int) p[1], 2), p[4]);
         }
-        promise = 12;
+        promise(12);
         due("back(0)", x.back(0), 350);
         due("back(1) of persons", x.back(1), 0);
         due("back(2) of others", x.back(2), 0);
@@ -383,7 +297,7 @@ public final class PromiseTest {
     }
 
     private static void payments() {
-        promise = 13;
+        promise(13);
         BothToBlame x = told(THREE + ";due 0");
         due("fund(0, 0)", x.fund(0, 0), 1000);
         due("fund(2, 1) by LEAST", x.fund(2, 1), 400);
@@ -394,7 +308,7 @@ public final class PromiseTest {
         due("fund at most", x.fund(0, 1), 1999980000);
         due("fund at most", x.fund(1, 1), 2000000000);
         due("fund of nothing", x.fund(1, 0), 0);
-        promise = 14;
+        promise(14);
         x = told(THREE);
         long[][] paid = {{0, 500, 50, 0}, {269, 300, 0, 0}, {193, 200, 0, 0}};
         for (int i = 0; i < 3; i++) {
@@ -404,7 +318,7 @@ public final class PromiseTest {
         }
         none(x, "pays(3, 0)", x.pays(3, 0), 1);
         none(x, "pays(0, 4)", x.pays(0, 4), 1);
-        promise = 15;
+        promise(15);
         long[][] to = {{0, 510, 290}, {174, 0, 57}, {125, 82, 0}};
         for (int i = 0; i < 3; i++) {
             for (int j = 0; j < 3; j++) {
@@ -416,22 +330,22 @@ public final class PromiseTest {
         none(x, "paysTo(1, 1)", x.paysTo(1, 1), 5);
         none(x, "paysTo(3, 3)", x.paysTo(3, 3), 1);
         none(x, "paysTo(0, -1)", x.paysTo(0, -1), 1);
-        promise = 16;
+        promise(16);
         long[][] sums = {{1350, 1350}, {1110, 800}, {800, 600}};
         for (int i = 0; i < 3; i++) {
             due("sum(" + i + ", 0)", x.sum(i, 0), sums[i][0]);
             due("sum(" + i + ", 1)", x.sum(i, 1), sums[i][1]);
-            promise = 17;
+            promise(17);
             due("bites(" + i + ")", x.bites(i), i == 0 ? 0 : 1);
-            promise = 16;
+            promise(16);
         }
         none(x, "sum(3, 0)", x.sum(3, 0), 1);
         none(x, "sum(0, 2)", x.sum(0, 2), 1);
         none(x, "sum(0, -1)", x.sum(0, -1), 1);
-        promise = 17;
+        promise(17);
         none(x, "bites(3)", x.bites(3), 1);
         none(x, "bites(-1)", x.bites(-1), 1);
-        promise = 18;
+        promise(18);
         long[][] gets = {{112, 350, 462}, {1000, 0, 1000}, {50, 0, 50}, {0, 0, 0}};
         for (int k = 0; k < 4; k++) {
             for (int what = 0; what < 3; what++) {
@@ -446,7 +360,7 @@ public final class PromiseTest {
         x.undo();
         x.law(5, 0);
         due("nothing paid to goods, nothing given back", x.gets(0, 1), 0);
-        promise = 19;
+        promise(19);
         x = told(THREE);
         long[][] covers = {{637, 713}, {150, 650}, {0, 600}};
         for (int i = 0; i < 3; i++) {
@@ -459,7 +373,7 @@ public final class PromiseTest {
     }
 
     private static void sharing() {
-        promise = 14;
+        promise(14);
         // One ship to blame alone; its lives fund has 10, its rate fund 10.
         BothToBlame x = told("ship a tons 10 fault 10 hull 0 value 0;ship b tons 1 fault 0 hull 4 value 0;least 1;rate 1;"
                 + "lives 1;others 3 day 0;persons 7 day 0;persons 7 day 0;persons 9 day 400;goods b 6 day 365");
@@ -487,7 +401,7 @@ public final class PromiseTest {
     }
 
     private static void nets() {
-        promise = 20;
+        promise(20);
         BothToBlame x = told(THREE);
         long[] nets = {-1601, -808, -553};
         for (int i = 0; i < 3; i++) {
@@ -495,7 +409,7 @@ public final class PromiseTest {
         }
         nothing(x, "net(3)", x.net(3), 1);
         nothing(x, "net(-1)", x.net(-1), 1);
-        promise = 21;
+        promise(21);
         for (int i = 0; i < 3; i++) {
             due("netBy as it is", x.netBy(i, 6), nets[i]);
         }
@@ -516,24 +430,24 @@ public final class PromiseTest {
                 due("netBy(" + i + ", " + laws + ")", x.netBy(i, laws), by[i][laws]);
                 best = by[i][laws] > by[i][best] ? laws : best;
             }
-            promise = 22;
+            promise(22);
             due("wished(" + i + ")", x.wished(i), best);
-            promise = 23;
+            promise(23);
             due("gap(" + i + ")", x.gap(i), by[i][6] - by[i][2]);
-            promise = 21;
+            promise(21);
         }
         due("laws as they were", x.about(2) * 100 + x.about(3) * 10 + x.about(4), 11);
         nothing(x, "netBy(3, 8)", x.netBy(3, 8), 1);
         nothing(x, "netBy(0, 8)", x.netBy(0, 8), 2);
         nothing(x, "netBy(0, -1)", x.netBy(0, -1), 2);
-        promise = 22;
+        promise(22);
         none(x, "wished(3)", x.wished(3), 1);
         due("of like ones the least", told("ship a tons 1 fault 5 hull 0 value 0;ship b tons 1 fault 5 hull 0 value 0")
                 .wished(1), 0);
-        promise = 23;
+        promise(23);
         nothing(x, "gap(3)", x.gap(3), 1);
         nothing(x, "gap(-1)", x.gap(-1), 1);
-        promise = 24;
+        promise(24);
         due("enough()", x.enough(), 2);
         x.law(6, 0);
         // Persons lack all: 1350 by 1000, 1110 by 500, 800 by 400.
@@ -547,13 +461,13 @@ public final class PromiseTest {
         due("enough() none is no trouble", x.trouble(), 0);
         x.become(0, 5, 1);
         due("enough() nothing to pay", x.enough(), 0);
-        promise = 28;
+        promise(28);
         x = told(THREE);
         due("all()", x.all(), -1800);
     }
 
     private static void tenths() {
-        promise = 25;
+        promise(25);
         BothToBlame x = told(THREE);
         for (int f = 0; f <= 8; f++) {
             BothToBlame y = told(THREE.replace("fault 3", "fault " + (8 - f)).replaceFirst("fault 5", "fault " + f));
@@ -567,7 +481,7 @@ public final class PromiseTest {
         nothing(x, "would(1, 1, -1)", x.would(1, 1, -1), 5);
         nothing(x, "would(0, 3, 1)", x.would(0, 3, 1), 1);
         nothing(x, "would(3, 3, 1)", x.would(3, 3, 1), 1);
-        promise = 26;
+        promise(26);
         x = told(TWO);
         // By 100 and 1000, 500 lost the first is left with -150 a tenth.
         due("worse", x.worse(0, 1, -900), 7);
@@ -582,7 +496,7 @@ public final class PromiseTest {
         none(x, "worse(0, 1, -1000000001)", x.worse(0, 1, -1000000001), 2);
         none(x, "worse(0, 0, 0)", x.worse(0, 0, 0), 5);
         none(x, "worse(0, 2, 1000000001)", x.worse(0, 2, 1000000001), 1);
-        promise = 27;
+        promise(27);
         judges(told(TWO), 1, 50);
         judges(told(TWO + ";ship c tons 1 fault 0 hull 77 value 0;ship d tons 1 fault 0 hull 1 value 0"), 2147483646, 7);
         nothing(x, "judged(2, 0, 1, 0)", x.judged(2, 0, 1, 0), 1);
@@ -627,7 +541,7 @@ public final class PromiseTest {
     }
 
     private static void acts() {
-        promise = 29;
+        promise(29);
         BothToBlame x = told(TWO);
         due("shift", x.shift(0, 1, 6), 10);
         due("shift", x.ship(0, 1), 0);
@@ -638,7 +552,7 @@ public final class PromiseTest {
         none(x, "shift(0, 0, 1)", x.shift(0, 0, 1), 5);
         none(x, "shift(1, 0, 1)", x.shift(1, 0, 1), 5);
         due("ACTS", x.about(10), 2);
-        promise = 30;
+        promise(30);
         x = told(TWO);
         due("file goods", x.file(0, 1, 9999999, 999), 0);
         due("file persons", x.file(1, 77, 1, 0), 1);
@@ -661,7 +575,7 @@ public final class PromiseTest {
         none(x, "file(2, 0, 0, 0) full", x.file(2, 0, 0, 0), 2);
         none(x, "file full", x.file(2, 0, 1, 1), 3);
         due("CLAIMS", x.about(1), 12);
-        promise = 31;
+        promise(31);
         due("withdraw the last", x.withdraw(11), 11);
         due("withdraw the first", x.withdraw(0), 10);
         due("moved up", x.claim(0, 2), 1);
@@ -669,7 +583,7 @@ public final class PromiseTest {
         none(x, "withdraw(10)", x.withdraw(10), 1);
         none(x, "withdraw(-1)", x.withdraw(-1), 1);
         due("file again", x.file(0, 0, 5, 5), 10);
-        promise = 32;
+        promise(32);
         x = told(TWO);
         int[] was = {1000, -1, 1000, 600, 0, 0};
         int[] low = {1, 0, 0, 0, 0, 0};
@@ -692,7 +606,7 @@ public final class PromiseTest {
     }
 
     private static void laws() {
-        promise = 33;
+        promise(33);
         BothToBlame x = told(TWO);
         int[] was = {0, 0, 0, 0, 0, 100, 200, 300, 365, 730};
         int[] low = {0, 0, 0, 0, 0, 0, 0, 1, 0, 365};
@@ -716,7 +630,7 @@ public final class PromiseTest {
         none(x, "law(1, 5)", x.law(1, 5), 1);
         none(x, "law(10, 5)", x.law(10, 5), 1);
         none(x, "law(-1, -5)", x.law(-1, -5), 1);
-        promise = 34;
+        promise(34);
         x = told(TWO);
         none(x, "undo() of nothing", x.undo(), 5);
         for (int v = 1; v <= 12; v++) {
@@ -753,14 +667,14 @@ public final class PromiseTest {
     }
 
     private static void images() {
-        promise = 35;
+        promise(35);
         BothToBlame x = told(TWO);
         x.law(5, 7);
         due("image(0)", x.image(0), true);
         due("an image is no ACT", x.about(10), 1);
         refused(x, "image(2)", x.image(2) ? 1 : 0, 0, 1);
         refused(x, "image(-1)", x.image(-1) ? 1 : 0, 0, 1);
-        promise = 36;
+        promise(36);
         refused(x, "again(1) not kept", x.again(1) ? 1 : 0, 0, 1);
         refused(x, "again(2)", x.again(2) ? 1 : 0, 0, 1);
         refused(x, "again(-1)", x.again(-1) ? 1 : 0, 0, 1);
@@ -800,7 +714,7 @@ public final class PromiseTest {
     }
 
     private static void letters() {
-        promise = 37;
+        promise(37);
         BothToBlame x = told(THREE);
         String[] names = {"a", "bcdefg", "cz", ""};
         x.part(0, -1);
@@ -818,11 +732,11 @@ public final class PromiseTest {
             }
         }
         due("trouble() stays", x.trouble(), 2);
-        promise = 38;
+        promise(38);
         due("size()", x.size(), 0);
         x.feed(0, 0, 0, 0, 0);
         due("size()", x.size(), 20);
-        promise = 39;
+        promise(39);
         due("trouble() stays", x.trouble(), 2);
         x.about(0);
         due("trouble()", x.trouble(), 0);
@@ -843,9 +757,6 @@ public final class PromiseTest {
         acts();
         images();
         letters();
-        System.out.println(wrong == 0 ? "each promise holds" : wrong + " answers are not as due");
-        if (wrong != 0) {
-            System.exit(1);
-        }
+        end("each promise holds");
     }
 }
