@@ -6,14 +6,11 @@ import java.util.Comparator;
 import java.util.NoSuchElementException;
 import java.util.Random;
 
-/** Odd arguments in many states: no call throws, but letter() its own exception; and the face is the document's. */
+/** Odd arguments in many states: no call throws, but letter() its own exception. */
 public final class NoThrowTest {
     private static final int[] ODD = {Integer.MIN_VALUE, Integer.MIN_VALUE + 1, -1000000001, -2, -1, 0, 1, 2, 3, 4, 5, 6,
         7, 8, 9, 10, 11, 12, 13, 50, 51, 999, 1000, 99999, 100000, 9999999, 10000000, 1000000001,
         Integer.MAX_VALUE - 1, Integer.MAX_VALUE};
-    private static final String FACE = "about again all back become between bites claim cover enough fault feed file fund gap "
-            + "gets image judged law letter net netBy owes part pays paysTo shift ship size sum text trouble undo wished "
-            + "where withdraw worse would";
     private static final String TEXT = "ship a tons 5 fault 4 hull 9999999 value 9999999 clause;"
             + "ship b tons 1 fault 3 hull 9999999 value 0 barred;ship c tons 99999 fault 3 hull 9999999 value 0 clause;"
             + "goods a 9999999 day 0;goods b 9999999 day 9;persons 9999999 day 400;others 9999999 day 999;whole";
@@ -55,32 +52,8 @@ public final class NoThrowTest {
         return all;
     }
 
-    private static void checkFace(Method[] face) {
-        String names = String.join(" ", Arrays.stream(face).map(Method::getName).toArray(String[]::new));
-        String[] wanted = FACE.split(" ");
-        Arrays.sort(wanted);
-        if (!names.equals(String.join(" ", wanted))) {
-            say("the face is " + names);
-        }
-        for (Method m : BothToBlame.class.getDeclaredMethods()) {
-            if (!Modifier.isPublic(m.getModifiers()) && !Modifier.isPrivate(m.getModifiers())) {
-                say(m.getName() + " is neither public nor private");
-            }
-            if (Modifier.isPrivate(m.getModifiers()) && (" " + FACE + " ").contains(" " + m.getName() + " ")) {
-                say(m.getName() + " bears the name of a public method");
-            }
-        }
-        for (var f : BothToBlame.class.getDeclaredFields()) {
-            boolean constant = f.getName().equals("NONE") || f.getName().equals("NOTHING");
-            if (constant != Modifier.isPublic(f.getModifiers()) || !constant && !Modifier.isPrivate(f.getModifiers())) {
-                say("field " + f.getName());
-            }
-        }
-    }
-
     public static void main(String[] args) throws IllegalAccessException {
         Method[] face = face();
-        checkFace(face);
         Random random = new Random(1);
         for (int run = 0; run < 4000; run++) {
             BothToBlame x = new BothToBlame();
