@@ -344,6 +344,13 @@ public final class ActBoundsTest extends Checks {
             none(x, "withdraw(" + k + ")", x.withdraw(k), 1);
         }
         due("what was withdrawn is owed nothing", x.sum(0, 0), 0);
+        x = told(TWO + ";others 50 day 3;others 100 day 3");
+        // Al owes 300 and is owed 400, bo owes 100 so.
+        due("owed by bo", x.sum(1, 0), 160);
+        due("withdraw(0)", x.withdraw(0), 1);
+        due("owed by bo", x.sum(1, 0), 140);
+        due("withdraw(0)", x.withdraw(0), 0);
+        due("owed by bo", x.sum(1, 0), 100);
     }
 
     private static void becoming() {

@@ -112,6 +112,9 @@ public final class MoneyBoundsTest extends Checks {
                 + "goods a 100 day 0;whole");
         dueAll("each other one, cut", new long[] {x.owes(1, 0), x.owes(2, 0), x.between(0, 1, 1), x.between(0, 2, 1),
             x.back(0)}, 83, 16, 33, 6, 39);
+        x.file(0, 2, 100, 0);
+        dueAll("to ones told ahead of it, too", new long[] {x.owes(0, 1), x.owes(1, 1), x.between(2, 0, 1), x.between(2, 1, 1),
+            x.back(1)}, 44, 55, 4, 5, 9);
 
         says("To a CLAIM that came behind LAST there is no DEBT, no BACK.");
         for (int last : new int[] {0, 365, 730, 998}) {
@@ -238,7 +241,10 @@ public final class MoneyBoundsTest extends Checks {
         dueAll("by 15", paid(alone(0, 15, 0, two), 0), 5, 10);
         dueAll("by 0", paid(alone(0, 0, 0, two), 0), 0, 0);
         dueAll("by 3", paid(alone(0, 3, 0, two), 0), 1, 2);
-        BothToBlame x = alone(0, 5, 0, ";others 9999999 day 0;others 9999999 day 0;others 9999998 day 0");
+        BothToBlame x = told("ship a tons 1 fault 0 hull 30 value 0;ship b tons 1 fault 10 hull 0 value 0;least 1;rate 20;"
+                + "others 10 day 0");
+        dueAll("to the first SHIP, too", new long[] {x.paysTo(1, 0), x.pays(1, 0)}, 15, 5);
+        x = alone(0, 5, 0, ";others 9999999 day 0;others 9999999 day 0;others 9999998 day 0");
         x.become(0, 0, 99999);
         x.law(5, 100);
         // 9,999,900 by 29,999,996: 3,333,300 and some, twice; 3,333,299 and some; the one that is left goes to the first.
@@ -377,6 +383,7 @@ public final class MoneyBoundsTest extends Checks {
         dueAll("just enough", new long[] {x.bites(0), x.bites(1)}, 0, 0);
         x.law(5, 49);
         dueAll("one lacks", new long[] {x.bites(0), x.bites(1)}, 0, 1);
+        dueAll("what is owed, what is paid", new long[] {x.sum(1, 0), x.sum(1, 1)}, 55, 54);
         x.law(5, 50);
         x.law(6, 4);
         dueAll("one life lacks", new long[] {x.bites(0), x.bites(1)}, 0, 1);
@@ -436,6 +443,16 @@ public final class MoneyBoundsTest extends Checks {
         dueAll("gap", new long[] {x.gap(0), x.gap(1)}, 3, -3);
         x.law(2, 1);
         dueAll("gap by EQUAL", new long[] {x.gap(0), x.gap(1)}, 5, -5);
+        x = told("ship a tons 1 fault 7 hull 100 value 0;ship b tons 1 fault 3 hull 50 value 0 barred;least 1;rate 0;"
+                + "goods a 100 day 0;goods b 90 day 0");
+        // a, whose fund is empty, owes b 35, and is owed 30; by EQUAL 25, 50; by WHOLE 105, 57; by both 75, 95.
+        int[] gaps = {30, 25, 57, 75};
+        for (int laws = 0; laws < 8; laws++) {
+            x.law(2, laws & 1);
+            x.law(3, laws >> 1 & 1);
+            x.law(4, laws >> 2);
+            dueAll("gap by " + laws, new long[] {x.gap(0), x.gap(1)}, gaps[laws & 3], -gaps[laws & 3]);
+        }
         nothing(x, "gap(2)", x.gap(2), 1);
         nothing(x, "gap(-1)", x.gap(-1), 1);
         says("NET of a SHIP. NOTHING: 1.");
@@ -540,6 +557,14 @@ public final class MoneyBoundsTest extends Checks {
                     all, least, most);
         }
         dueAll("tenths as they are", new long[] {x.ship(0, 1), x.ship(1, 1)}, 6, 4);
+        x.law(2, 1);
+        dueAll("by EQUAL", new long[] {x.judged(0, 1, 1, 0), x.judged(0, 1, 1, 1), x.judged(0, 1, 1, 2)}, -50, -50, -50);
+        x = told("ship a tons 1 fault 6 hull 0 value 0 clause;ship b tons 1 fault 4 hull 0 value 0 barred;goods a 100 day 0;"
+                + "whole;least 1;rate 0");
+        // Goods give back 10 a tenth of a, which pays nothing: 20 by the first judge, above 0 by each of these.
+        dueAll("above 0", new long[] {x.judged(0, 1, 1, 0), x.judged(0, 1, 1, 1), x.judged(0, 1, 1, 2)}, 20, 20, 20);
+        due("the least of three", x.judged(0, 1, 3, 1) > 0, true);
+        x = told("ship a tons 1 fault 6 hull 100 value 0;ship b tons 1 fault 4 hull 0 value 0");
         says("A DRAW of n: x becomes 48271 x modulo 2147483647 (x at first a seed 1 .. 2147483646), it is x modulo n.");
         // The seed 2147483646 is -1: each x is 2147483647 less that of the seed 1, so it is odd where that one is even.
         due("seed 2147483646", x.judged(0, 2147483646, 1, 0), -80);
@@ -623,7 +648,93 @@ public final class MoneyBoundsTest extends Checks {
         nothing(y, "all() without a TEXT", y.all(), 1);
     }
 
+    /** Four ships, twelve claims: each ship i has i + 1 tenths, 1000 lost a tenth; each claim is 1000. */
+    private static String full() {
+        StringBuilder text = new StringBuilder();
+        for (int i = 0; i < 4; i++) {
+            text.append("ship ").append((char) ('a' + i)).append(" tons 1000 fault ").append(i + 1).append(" hull ")
+                    .append(1000 * (i + 1)).append(" value 9999999;");
+        }
+        for (int i = 0; i < 4; i++) {
+            text.append("goods ").append((char) ('a' + i)).append(" 1000 day 0;persons 1000 day 0;others 1000 day 0;");
+        }
+        return text.append("cross").toString();
+    }
+
+    private static void fullCase() {
+        says("2 to 4.");
+        says("up to 12 in all)");
+        BothToBlame x = told(full());
+        due("SHIPS", x.about(0), 4);
+        due("CLAIMS", x.about(1), 12);
+        int[] tenths = new int[4];
+        long draw = 1;
+        for (int t = 0; t < 10; t++) {
+            draw = draw * 48271 % 2147483647;
+            tenths[(int) (draw % 4)]++;
+        }
+        for (int i = 0; i < 4; i++) {
+            int f = i + 1;
+            // A ship pays 100 a tenth to each of eleven claims, 100 a tenth and tenth of the other to each ship.
+            due("net(" + i + ")", x.net(i), -2100 * f);
+            due("netBy(" + i + ", 0)", x.netBy(i, 0), -2100 * f);
+            due("gap(" + i + ")", x.gap(i), 0);
+            int best = 0;
+            for (int laws = 1; laws < 8; laws++) {
+                best = x.netBy(i, laws) > x.netBy(i, best) ? laws : best;
+            }
+            due("wished(" + i + ")", x.wished(i), best);
+            due("judged(" + i + ")", x.judged(i, 1, 1, 0), -2100 * tenths[i]);
+            due("sum(" + i + ")", x.sum(i, 1), 1100 * f + 100 * f * (10 - f));
+            due("bites(" + i + ")", x.bites(i), 0);
+            due("cover(" + i + ")", x.cover(i, 0), (700 * f + 100 * f * (10 - f)) * 3 / 4);
+            due("club(" + i + ")", x.cover(i, 1), 1100 * f + 100 * f * (10 - f) - (700 * f + 100 * f * (10 - f)) * 3 / 4);
+            for (int j = 0; j < 4; j++) {
+                if (i != j) {
+                    due("paysTo(" + i + ", " + j + ")", x.paysTo(i, j), 100 * f * (j + 1));
+                    due("would(" + i + ", " + j + ", 0)", x.would(i, j, 0), 0);
+                }
+            }
+            for (int k = 0; k < 12; k++) {
+                due("pays(" + i + ", " + k + ")", x.pays(i, k), k == 3 * i ? 0 : 100 * f);
+            }
+        }
+        due("all()", x.all(), -10000);
+        due("enough(): 2800 to claims, 2400 to ships by 1000", x.enough(), 6);
+        x.law(3, 1);
+        for (int k = 0; k < 12; k++) {
+            int home = k / 3;
+            int back = 0;
+            for (int j = 0; j < 4; j++) {
+                back += k % 3 != 0 || j == home ? 0 : 1000 * (j + 1) / (9 - home) - 100 * (j + 1);
+            }
+            due("back(" + k + ")", x.back(k), back);
+            due("gets(" + k + ", 1)", x.gets(k, 1), 0);
+        }
+        x.become(3, 4, 1);
+        due("GIVEN BACK", x.gets(9, 1), 166 + 333 + 500 - 600);
+    }
+
+    private static void fullAndPoor() {
+        says("2 to 4.");
+        BothToBlame x = told(full() + ";rate 0;lives 0");
+        for (int i = 0; i < 4; i++) {
+            due("net(" + i + ")", x.net(i), -1000 * (i + 1));
+            due("bites(" + i + ")", x.bites(i), 1);
+        }
+        for (int k = 0; k < 12; k++) {
+            due("gets(" + k + ", 0)", x.gets(k, 0), 0);
+        }
+        due("all()", x.all(), -10000);
+        x.become(3, 0, 2);
+        x.law(7, 1);
+        x.law(5, 1);
+        dueAll("the two that the last ship has", new long[] {x.paysTo(3, 0), x.paysTo(3, 1), x.paysTo(3, 2)}, 1, 1, 0);
+    }
+
     public static void main(String[] args) {
+        fullCase();
+        fullAndPoor();
         told();
         weights();
         debts();

@@ -14,6 +14,11 @@ public final class NoThrowTest {
     private static final String TEXT = "ship a tons 5 fault 4 hull 9999999 value 9999999 clause;"
             + "ship b tons 1 fault 3 hull 9999999 value 0 barred;ship c tons 99999 fault 3 hull 9999999 value 0 clause;"
             + "goods a 9999999 day 0;goods b 9999999 day 9;persons 9999999 day 400;others 9999999 day 999;whole";
+    private static final String FULL = "ship a tons 1 fault 1 hull 9999999 value 9999999 clause;"
+            + "ship b tons 2 fault 2 hull 9999999 value 9;ship c tons 3 fault 3 hull 9999999 value 9 barred;"
+            + "ship d tons 99999 fault 4 hull 9999999 value 9 clause barred"
+            + ";goods a 9999999 day 0;goods b 9999999 day 9;goods c 9999999 day 400;goods d 9999999 day 365".repeat(2)
+            + ";persons 9999999 day 366;others 9999999 day 730".repeat(2) + ";whole;cross";
     private static int wrong = 0;
 
     private static void say(String what) {
@@ -31,6 +36,14 @@ public final class NoThrowTest {
             if (!own) {
                 say(m.getName() + Arrays.toString(args) + " threw " + e.getCause());
             }
+        }
+    }
+
+    private static void mustBeGood(String text, int ships, int claims) {
+        BothToBlame x = new BothToBlame();
+        tell(x, text);
+        if (x.about(0) != ships || x.about(1) != claims) {
+            say("not read as it should be: " + text);
         }
     }
 
@@ -54,11 +67,14 @@ public final class NoThrowTest {
 
     public static void main(String[] args) throws IllegalAccessException {
         Method[] face = face();
+        mustBeGood(TEXT, 3, 4);
+        mustBeGood(FULL, 4, 12);
         Random random = new Random(1);
         for (int run = 0; run < 4000; run++) {
             BothToBlame x = new BothToBlame();
             if (run % 5 != 0) {
-                tell(x, TEXT.substring(0, run % 50 == 1 ? random.nextInt(TEXT.length()) : TEXT.length()));
+                String text = run % 2 == 0 ? TEXT : FULL;
+                tell(x, text.substring(0, run % 50 == 1 ? random.nextInt(text.length()) : text.length()));
             }
             for (int c = 0; c < 450; c++) {
                 Method m = face[random.nextInt(face.length)];

@@ -307,6 +307,13 @@ public final class RefusalTest extends Checks {
             }
         }
         BothToBlame x = new BothToBlame();
+        none(x, "ship(0, 0) without a TEXT", x.ship(0, 0), 1);
+        none(x, "claim(0, 0) without a TEXT", x.claim(0, 0), 1);
+        none(x, "back(0) without a TEXT", x.back(0), 1);
+        none(x, "gets(0, 0) without a TEXT", x.gets(0, 0), 1);
+        none(x, "withdraw(0) without a TEXT", x.withdraw(0), 1);
+        none(x, "between(0, 1, 0) without a TEXT", x.between(0, 1, 0), 1);
+        nothing(x, "net(0) without a TEXT", x.net(0), 1);
         none(x, "enough() without a TEXT", x.enough(), 1);
         nothing(x, "all() without a TEXT", x.all(), 1);
         none(x, "undo() without a TEXT", x.undo(), 1);

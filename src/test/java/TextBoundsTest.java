@@ -450,6 +450,22 @@ public final class TextBoundsTest extends Checks {
         x.text(5);
         due("empty by a fault, too", x.size(), 0);
         due("what was behind is gone", x.text(feed(x, TWO)), 2);
+        feed(x, TWO + ";rate 55");
+        due("text() up to the first digit", x.text(END + 7), 2);
+        due("RATE", x.about(5), 5);
+        feed(x, TWO + "0".repeat(9) + "!");
+        due("text() up to the seventh digit", x.text(END + 4), 2);
+        due("VALUE", x.ship(1, 3), 4000000);
+        due("with marks", x.text(feed(x, TWO.replace("600", "600 clause barred") + " clause barred;equal;whole;cross;rate 1")), 2);
+        due("without", x.text(feed(x, TWO)), 2);
+        for (int what = 4; what <= 5; what++) {
+            due("no mark of an earlier TEXT", x.ship(0, what) + x.ship(1, what), 0);
+        }
+        due("no LAW of an earlier TEXT", x.about(2) + x.about(3) + x.about(4), 0);
+        due("no number of an earlier TEXT", x.about(5), 100);
+        due("with a claim", x.text(feed(x, TWO + ";others 5 day 5")), 2);
+        due("without", x.text(feed(x, TWO)), 2);
+        due("no CLAIM of an earlier TEXT", x.about(1), 0);
         x = new BothToBlame();
         feed(x, TWO + ";" + ship("c", 0));
         due("three ships, all bytes", x.text(x.size()), 3);
